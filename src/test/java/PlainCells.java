@@ -106,7 +106,7 @@ final class PlainCells {
     }
 
     int run(int fault, int what) {
-        if (fault != NONE && !allFaults().contains(fault)) return UNKNOWN;
+        if (fault != NONE && !faultsOf(fault / 1000).contains(fault)) return UNKNOWN;
         if (what < 0 || what > 5) return OUTSIDE;
         simulate(fault);
         int[] first = misses.isEmpty() ? null : misses.get(0);
@@ -190,11 +190,9 @@ final class PlainCells {
         return rows * columns;
     }
 
-    List<Integer> allFaults() {
+    List<Integer> faultsOf(int cell) {
         List<Integer> all = new ArrayList<>();
-        for (int c = 0; c < cells(); c++) {
-            for (int kind = 0; kind <= 2; kind++) all.addAll(faultsOf(c, kind));
-        }
+        for (int kind = 0; kind <= 2 && cell >= 0 && cell < cells(); kind++) all.addAll(faultsOf(cell, kind));
         return all;
     }
 
@@ -321,8 +319,8 @@ final class PlainCells {
     }
 
     private int neighbour(int cell, int k) {
-        int row = cell / columns + new int[] {-1, 0, 1, 0}[k];
-        int column = cell % columns + new int[] {0, 1, 0, -1}[k];
+        int row = cell / columns + (k == 0 ? -1 : k == 2 ? 1 : 0);
+        int column = cell % columns + (k == 1 ? 1 : k == 3 ? -1 : 0);
         return row < 0 || row >= rows || column < 0 || column >= columns ? NONE : row * columns + column;
     }
 

@@ -126,7 +126,7 @@ public final class RandomRunsTest {
 
     private int fault(int c) {
         if (random.nextInt(4) > 0) {
-            List<Integer> all = plain.allFaults();
+            List<Integer> all = plain.faultsOf(random.nextInt(plain.cells()));
             return all.get(random.nextInt(all.size()));
         }
         return random.nextInt(4) == 0 ? near(2) - 1 : 1000 * c + random.nextInt(1000);
