@@ -277,13 +277,13 @@ public final class DisturbedCells {
             return false;
         }
         if (kind != TURNING) {
-            return (part >> 1 & ~there) == 0;
+            return ((part >> 1) & ~there) == 0;
         }
         int k = part >> 5;
-        int q = part >> 1 & 7;
+        int q = (part >> 1) & 7;
         int below = (1 << k) - 1;
-        int around = q & below | (q & ~below) << 1;
-        return (there >> k & 1) == 1 && (around & ~there) == 0;
+        int around = (q & below) | ((q & ~below) << 1);
+        return ((there >> k) & 1) == 1 && (around & ~there) == 0;
     }
 
     private static int partsOf(int kind) {
@@ -325,7 +325,7 @@ public final class DisturbedCells {
                 // A FAULT changes no BIT but that of its own CELL.
                 return missed ? 1 : 0;
             default:
-                return lastBits() & ~(1 << cell) | bench.lastBitOf(part) << cell;
+                return (lastBits() & ~(1 << cell)) | (bench.lastBitOf(part) << cell);
         }
     }
 
@@ -392,7 +392,7 @@ public final class DisturbedCells {
         int due = 0;
         for (int pattern = 0; pattern < PATTERNS; pattern++) {
             if ((pattern & ~there) == 0) {
-                due |= 1 << pattern | 1 << PATTERNS + pattern;
+                due |= (1 << pattern) | (1 << (PATTERNS + pattern));
             }
         }
         return due;
@@ -490,7 +490,7 @@ public final class DisturbedCells {
             if (newFactor < 1 || newFactor >= cells || commonDivisor(cells, newFactor) != 1) {
                 return false;
             }
-            if (newShift < 0 || newShift >= cells || newTurned < 0 || newTurned >= 1 << rows) {
+            if (newShift < 0 || newShift >= cells || newTurned < 0 || newTurned >= (1 << rows)) {
                 return false;
             }
             factor = newFactor;
@@ -530,7 +530,7 @@ public final class DisturbedCells {
         }
 
         int turnedAt(int cell) {
-            return has(cell) ? turned >> rowsOf[cell] & 1 : 0;
+            return has(cell) ? (turned >> rowsOf[cell]) & 1 : 0;
         }
 
         int beside(int cell, int k) {
@@ -652,7 +652,7 @@ public final class DisturbedCells {
         }
 
         private void writeBeside(int k, int sign) {
-            int had = pattern >> k & 1;
+            int had = (pattern >> k) & 1;
             int now = written(sign, had);
             if (now == had) {
                 return;
@@ -660,7 +660,7 @@ public final class DisturbedCells {
             pattern ^= 1 << k;
             if (kind == TURNING) {
                 int below = (1 << k) - 1;
-                int q = pattern & below | pattern >> 1 & ~below;
+                int q = (pattern & below) | ((pattern >> 1) & ~below);
                 turn(32 * k + 16 * now + 2 * q);
             }
         }
@@ -683,7 +683,7 @@ public final class DisturbedCells {
         }
 
         private void readAll(int place) {
-            sights |= 1 << PATTERNS * should + pattern;
+            sights |= 1 << (PATTERNS * should + pattern);
             for (int part = 0; part < parts; part++) {
                 if (bits[part] != should) {
                     if (misses[part] == 0) {

@@ -3,7 +3,8 @@ import java.util.List;
 
 /**
  * The document once more, in its most literal form: one FAULT at a time, the whole SHEET, every
- * CELL written and read by itself. It shares no code and no idea with the class it is compared to.
+ * CELL written and read by itself. It shares no code with the class it is compared to, but the same
+ * session wrote both: a misreading of the document would stand in both.
  */
 final class PlainCells {
     static final int NONE = -1, UNKNOWN = -1001, OUTSIDE = -1002, STATE = -1003, FULL = -1004;

@@ -124,7 +124,9 @@ public final class PromisesTest {
         due("5: its results stay", x.run(NONE, 5), 0xffff);
         x.blank();
         x.letter('4');
+        due("5: SEEN by the TEST that stands", x.seen(0), 1 << 16 + 6);
         due("5: another test()", x.test(), 1);
+        due("5: SEEN by the other one", x.seen(0), 0);
         due("5: the other one is gone", x.step(1), UNKNOWN);
         x.gray();
         for (int many = 0; many < 60; many++) x.letter('1');
@@ -141,8 +143,13 @@ public final class PromisesTest {
         for (int place = 0; place < 64; place++) {
             due("6: step(" + place + ")", x.step(place), text.charAt(place));
         }
-        due("6: the page stays", x.count(0), 1);
+        due("6: the page stays", x.blank(), 1);
         due("6: all cells are seen whole", x.count(10), 16);
+        due("6: seen(5)", x.seen(5), -1);
+        Checks.with(x, "r");
+        due("6: seen(5) by another one", x.seen(5), 1);
+        x.gray();
+        due("6: seen(5) by gray again", x.seen(5), -1);
         x.sheet(5, 5);
         due("6: also on 5 by 5", x.count(10), 25);
         due("6: its OPS are BOUND there: above", x.count(8), 1);
@@ -172,6 +179,10 @@ public final class PromisesTest {
             }
         }
         due("8: the last one stands, rows", x.count(1), 5);
+        due("8: CELL 4 is a corner", x.found(4, 0, 0), 8);
+        x.sheet(3, 3);
+        due("8: CELL 4 is within", x.found(4, 0, 0), 32);
+        x.sheet(5, 5);
         for (int side : FAR) {
             due("8: sheet(" + side + ", 3)", x.sheet(side, 3), OUTSIDE);
             due("8: sheet(3, " + side + ")", x.sheet(3, side), OUTSIDE);
@@ -313,6 +324,7 @@ public final class PromisesTest {
         runIs(Checks.with(3, 3, "40r"), 4652, 2, 4, 1, 1, 1, 1 + 32 + 4 + 128 + 16);
         runIs(Checks.with(3, 3, "10r"), 4656, 2, 4, 1, 1, 1, 1 + 32 + 8 + 256 + 16);
         runIs(Checks.with(3, 3, "02r"), 4618, 2, 4, 1, 1, 1, 1 + 32 + 2 + 64 + 16);
+        runIs(Checks.with(3, 3, "22r"), 4600, 2, 4, 1, 1, 1, 16);
         // k is written as before: it does not become so
         runIs(Checks.with(3, 3, "zr"), 4632, NONE, NONE, NONE, 0, 0, 0);
         // turned over behind its own being written in "o", ahead of it not to be seen
@@ -407,6 +419,8 @@ public final class PromisesTest {
         due("15: corner 0 is seen whole", x.count(10), 1);
         Checks.with(x, "zr0r2r0r1r0r2r0");
         due("15: but for one", x.count(10), 0);
+        Checks.with(x, "0r2r0r1r0r2r0r");
+        due("15: but for 0 in PATTERN 0", x.count(10), 0);
         due("15: count(-1)", x.count(-1), OUTSIDE);
         due("15: count(11)", x.count(11), OUTSIDE);
         for (int far : FAR) due("15: count(" + far + ")", x.count(far), OUTSIDE);
