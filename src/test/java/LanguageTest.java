@@ -77,7 +77,17 @@ public final class LanguageTest {
             Matcher m = Pattern.compile(word).matcher(code);
             CHECKS.holds("no " + word, !m.find());
         }
+        madeInConstructorsAlone(code.split("\n"));
         methodsAreShort(whole.split("\n"));
+    }
+
+    /** All calls of a run live in one room: what is made is made with the object, and used again. */
+    private static void madeInConstructorsAlone(String[] lines) {
+        for (String line : lines) {
+            if (!line.matches(".*\\bnew\\b.*")) continue;
+            CHECKS.holds("made with the object: " + line.trim(),
+                    line.matches(" +private final \\w+\\[\\] \\w+ = new .*") || line.matches(" +(page|steps|plane|bench) = new .*"));
+        }
     }
 
     private static void methodsAreShort(String[] lines) {
