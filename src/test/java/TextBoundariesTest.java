@@ -25,6 +25,7 @@ public final class TextBoundariesTest {
         testOfSixtySigns();
         testIsNone();
         testEmptiesThePage();
+        anotherOneIsGone();
         grayIsMoreThanAText();
         grayKeepsThePage();
         stepUnknown();
@@ -252,6 +253,27 @@ public final class TextBoundariesTest {
         due("5: another one", x.test(), 1);
         due("5: STEP 0", x.step(0), 'o');
         due("5: the one before is gone", x.step(1), UNKNOWN);
+    }
+
+    /** The same question right ahead of a change and right behind it: nothing is left of what was worked out before. */
+    private static void anotherOneIsGone() {
+        DisturbedCells x = withPage("or");
+        due("5: no TEST, seen(5)", x.seen(5), 0);
+        due("5: test()", x.test(), 2);
+        due("5: or, seen(5)", x.seen(5), LEAST);
+        x.letter('r');
+        due("5: or still, seen(5)", x.seen(5), LEAST);
+        due("5: another test()", x.test(), 1);
+        due("5: r, seen(5)", x.seen(5), 1);
+        due("5: r, found(5, 0, 1)", x.found(5, 0, 1), 1);
+        x.gray();
+        due("6: GRAY, found(5, 0, 1)", x.found(5, 0, 1), 32);
+        x.sheet(3, 3);
+        due("8: at the rim now, found(5, 0, 1)", x.found(5, 0, 1), 16);
+        due("8: run(5001, 0)", x.run(5001, 0), 1);
+        x.letter('r');
+        x.test();
+        due("5: r, run(5001, 0)", x.run(5001, 0), 0);
     }
 
     // 6: "(so it has 64 STEPS: more than a text)"
