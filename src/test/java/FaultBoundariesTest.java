@@ -378,7 +378,8 @@ public final class FaultBoundariesTest {
         foundIs(x, 8, 0, 8, 1, 8000, 0);
         x.gray();
         foundIs(x, 4, 0, 32, 32, NONE, 63);
-        foundIs(x, 0, 0, 8, 8, NONE, x.found(0, 0, 3));
+        // the corner 0 and those beside it have TYPES 0, 2, 1: all is seen once k is 7
+        foundIs(x, 0, 0, 8, 8, NONE, 15);
         Checks.with(x, "z".repeat(59) + "r");
         foundIs(x, 4, 0, 32, 1, 4000, 59);
         // STUCK with 0 in PATTERN 0: the least one is found, the next is not
