@@ -1,4 +1,5 @@
 import java.io.IOException;
+import java.lang.reflect.Field;
 import java.lang.reflect.Member;
 import java.lang.reflect.Method;
 import java.lang.reflect.Modifier;
@@ -32,7 +33,9 @@ public final class LanguageTest {
             CHECKS.holds(inner + " is static", Modifier.isStatic(inner.getModifiers()));
             CHECKS.holds(inner + " is not public", !Modifier.isPublic(inner.getModifiers()));
             names(inner);
+            sizes(inner);
         }
+        CHECKS.holds("some twelve classes", DisturbedCells.class.getDeclaredClasses().length < 12);
         text(Files.readString(SOURCE));
         CHECKS.end();
     }
@@ -52,8 +55,32 @@ public final class LanguageTest {
         Arrays.stream(c.getDeclaredFields()).filter(f -> isOpen(f)).forEach(f -> fields.add(f.getName()));
         CHECKS.holds("the constants are " + fields, fields.equals(List.of("NONE", "UNKNOWN", "OUTSIDE", "STATE", "FULL")));
         CHECKS.due("constructors", c.getDeclaredConstructors().length, 1);
-        CHECKS.holds("it is public", isOpen(c.getDeclaredConstructors()[0]));
+        CHECKS.due("its modifiers", c.getDeclaredConstructors()[0].getModifiers(), Modifier.PUBLIC);
+        CHECKS.due("its parameters", c.getDeclaredConstructors()[0].getParameterCount(), 0);
+        CHECKS.holds("a class of its own", c.getSuperclass() == Object.class && c.getInterfaces().length == 0);
+        Arrays.stream(c.getDeclaredFields()).filter(f -> isOpen(f)).forEach(f -> constant(f));
         names(c);
+        sizes(c);
+    }
+
+    private static void constant(Field field) {
+        CHECKS.holds(field + " is an int", field.getType() == int.class);
+        CHECKS.due(field + "'s modifiers", field.getModifiers(), Modifier.PUBLIC | Modifier.STATIC | Modifier.FINAL);
+    }
+
+    /** Rules 5 and 11: static fields are final, a class has some twenty beside, a method up to seven parameters. */
+    private static void sizes(Class<?> c) {
+        int fields = 0;
+        for (Field field : c.getDeclaredFields()) {
+            boolean isStatic = Modifier.isStatic(field.getModifiers());
+            CHECKS.holds(field + " is final if static", !isStatic || Modifier.isFinal(field.getModifiers()));
+            fields += isStatic ? 0 : 1;
+        }
+        CHECKS.holds(c + " has some twenty fields", fields <= 20);
+        for (Method m : c.getDeclaredMethods()) {
+            CHECKS.holds(m + " has up to seven parameters", m.getParameterCount() <= 7);
+            CHECKS.due(m + " declares exceptions", m.getExceptionTypes().length, 0);
+        }
     }
 
     private static boolean isOpen(Member member) {
